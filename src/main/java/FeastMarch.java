@@ -418,7 +418,8 @@ public final class FeastMarch {
 
     /** THE TEXT, and how it is read, TOKEN by TOKEN. */
     private static final class Text {
-        private static final int END = 0, LETTERS = 1, NUMBER = 2, STOP = 3, WRONG = 4;
+        /** What a TOKEN is; no ITEM begins with several letters, so LETTER is a single one. */
+        private static final int END = 0, LETTER = 1, NUMBER = 2, STOP = 3, WRONG = 4;
 
         final int[] bytes = new int[MAX_TEXT];
         int length;
@@ -453,7 +454,7 @@ public final class FeastMarch {
         }
 
         private boolean readItem(City into, boolean isFirst) {
-            if (token != LETTERS) {
+            if (token != LETTER) {
                 return false;
             }
             switch (value) {
@@ -512,48 +513,42 @@ public final class FeastMarch {
 
         /** The next TOKEN; start is the place of its first byte, at the end the text's length. */
         private void advance() {
-            while (place < length && bytes[place] == ' ') {
-                place++;
-            }
+            skip(' ', ' ');
             start = place;
-            if (place >= length) {
-                token = END;
-            } else if (isDigit(bytes[place])) {
-                scanNumber();
-            } else if (isLetter(bytes[place])) {
-                scanLetters();
-            } else {
+            if (skip('0', '9')) {
+                tellNumber();
+            } else if (skip('a', 'z')) {
+                token = place - start == 1 ? LETTER : WRONG;
+                value = bytes[start];
+            } else if (place < length) {
                 token = bytes[place] == ';' ? STOP : WRONG;
                 place++;
+            } else {
+                token = END;
             }
         }
 
-        private void scanNumber() {
-            boolean zeroAhead = bytes[start] == '0';
-            value = 0;
-            while (place < length && isDigit(bytes[place])) {
-                value = value * 10 + bytes[place] - '0';
+        /** Goes on behind all bytes from low to high that are next: whether there were any. */
+        private boolean skip(int low, int high) {
+            int from = place;
+            while (place < length && bytes[place] >= low && bytes[place] <= high) {
                 place++;
             }
+            return place > from;
+        }
+
+        /** Three digits are above 99 or begin with a 0: no NUMBER has more than two. */
+        private void tellNumber() {
             int digits = place - start;
-            token = digits > 2 || zeroAhead && digits > 1 ? WRONG : NUMBER;
-        }
-
-        /** No ITEM begins with several letters, so the value is that of a single one. */
-        private void scanLetters() {
-            value = bytes[start];
-            while (place < length && isLetter(bytes[place])) {
-                place++;
+            int firstDigit = bytes[start] - '0';
+            token = NUMBER;
+            if (digits == 1) {
+                value = firstDigit;
+            } else if (digits == 2 && firstDigit > 0) {
+                value = firstDigit * 10 + bytes[start + 1] - '0';
+            } else {
+                token = WRONG;
             }
-            token = place - start == 1 ? LETTERS : WRONG;
-        }
-
-        private static boolean isDigit(int c) {
-            return c >= '0' && c <= '9';
-        }
-
-        private static boolean isLetter(int c) {
-            return c >= 'a' && c <= 'z';
         }
     }
 
@@ -579,7 +574,7 @@ public final class FeastMarch {
         }
 
         void addStreet(int a, int b, int hoursLong) {
-            if (streets < MAX_STREETS) {
+            if (streets < MAX_STREETS && hasCorner(a) && hasCorner(b)) {
                 first[streets] = a;
                 second[streets] = b;
                 hours[streets] = hoursLong;
@@ -588,7 +583,7 @@ public final class FeastMarch {
         }
 
         void addLeader(int where, int streetsHeLeads) {
-            if (leaders < MAX_LEADERS) {
+            if (leaders < MAX_LEADERS && hasCorner(where)) {
                 home[leaders] = where;
                 feet[leaders] = streetsHeLeads;
                 leaders++;
@@ -711,6 +706,9 @@ public final class FeastMarch {
 
         /** LED by a leader: whether it STANDS. */
         boolean goBy(City city, int l) {
+            if (!city.hasLeader(l)) {
+                return false;
+            }
             int home = city.home[l];
             int feet = city.feet[l];
             boolean stands = false;
