@@ -192,6 +192,11 @@ public final class Promises {
         fault("c100;", 1);
         fault("c 4294967297;", 2);
         fault("c1 2;", 3);
+        fault("c 10;", 2);
+        fault("c 99;", 2);
+        fault("c8;s0 1 11;", 8);
+        fault("c8;s10 1 1;", 4);
+        fault("c8;l0 10;", 6);
         fault("c;", 1);
         fault("cs;", 0);
         fault("c1s;", 2);
@@ -329,6 +334,8 @@ public final class Promises {
         due("far(0, 5)", x.far(0, 5), -1);
         due("far(5, 0)", x.far(5, 0), -1);
         due("far(MIN, MAX)", x.far(MIN, MAX), -1);
+        FeastMarch by = told("c 3; s 1 0 2; s 0 2 3;");
+        due("far(1, 2) by the door", by.far(1, 2), 5);
         FeastMarch y = told("c8;s0 1 9;s1 2 9;s2 3 9;s3 4 9;s4 5 9;s5 6 9;s6 7 9;");
         due("far(0, 7), the longest", y.far(0, 7), 63);
         due("far(7, 0)", y.far(7, 0), 63);
@@ -481,6 +488,8 @@ public final class Promises {
         due("now(6)", x.now(6), -1);
         due("now(MIN)", x.now(MIN), -1);
         due("now(MAX)", x.now(MAX), -1);
+        FeastMarch one = told("c 1;");
+        due("now(0) of one corner", one.now(0), 0);
     }
 
     private static void order() {
@@ -552,6 +561,10 @@ public final class Promises {
         due("rows(2)", all.rows(2), 4);
         due("rows(5)", all.rows(5), 15);
         due("fits(-1)", all.fits(-1), 24);
+        FeastMarch six = told("c 2; s 0 1 1; l 1 1; l 0 2; l 1 1; l 0 1; l 0 1; l 0 1;");
+        due("order(-2) of six", six.order(-2), 4);
+        due("fits(-1) of six", six.fits(-1), 720);
+        due("rows(5) of six", six.rows(5), 63);
     }
 
     private static void orderNotAtDoor() {
@@ -629,6 +642,15 @@ public final class Promises {
         y.undo();
         y.undo();
         due("rows(0) behind undo()", y.rows(0), 2);
+        FeastMarch first = told("c 3; s 2 1 1; s 0 1 1; l 1 1;");
+        due("rows(0): the first one by no row", first.rows(0), 1);
+        FeastMarch hides = told("c 2; s 0 1 1; l 1 1; l 0 1;");
+        hides.leads(0);
+        due("rows(5): one is left", hides.rows(5), 2);
+        FeastMarch none = new FeastMarch();
+        for (int what = 0; what <= 5; what++) {
+            due("rows(" + what + ") of no corners", none.rows(what), 0);
+        }
         FeastMarch bread = told("c 3; s 0 1 2; s 0 2 9; l 1 1; l 2 1;");
         due("rows(3), the fewest", bread.rows(3), 4);
         due("rows(4), the most", bread.rows(4), 18);
@@ -782,6 +804,9 @@ public final class Promises {
         y.plans(1);
         y.plans(2);
         due("planned(2): each stands", y.planned(2), 3);
+        y.leads(0);
+        due("now(2)", y.now(2), 1);
+        due("planned(2): fines more", y.planned(2), 2);
         FeastMarch none = new FeastMarch();
         due("planned(0) of no corners", none.planned(0), -9);
         due("planned(1) of no corners", none.planned(1), 0);
@@ -914,9 +939,31 @@ public final class Promises {
         due("undo() as kept", x.undo(), 0);
         due("now(0)", x.now(0), 0);
         due("back(0) again", x.back(0), 5);
-        due("order(-3): of what is now", x.order(-3), x.rows(3));
-        due("order(0)", x.order(2), -9);
         due("trace()", x.trace(), 0);
+        FeastMarch y = told("c 2; s 0 1 3; l 1 1; l 0 1;");
+        y.keep(1);
+        y.leads(0);
+        due("order(-3)", y.order(-3), 3);
+        y.back(1);
+        due("order(-3) behind back()", y.order(-3), 6);
+        FeastMarch ten = told(RING);
+        ten.leads(0);
+        for (int i = 0; i < 12; i++) {
+            ten.shuts(i % 6, i < 6 ? 1 : 0);
+        }
+        ten.keep(0);
+        for (int i = 0; i < 10; i++) {
+            ten.undo();
+        }
+        due("now(5)", ten.now(5), 3);
+        ten.shuts(5, 1);
+        ten.shuts(4, 1);
+        due("back(0)", ten.back(0), 5);
+        for (int left = 9; left >= 0; left--) {
+            due("undo() as kept", ten.undo(), left);
+        }
+        due("now(5) as kept", ten.now(5), 3);
+        due("now(0) as kept", ten.now(0), 2);
     }
 
     private static void count() {

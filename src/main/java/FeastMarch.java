@@ -418,7 +418,10 @@ public final class FeastMarch {
 
     /** THE TEXT, and how it is read, TOKEN by TOKEN. */
     private static final class Text {
-        /** What a TOKEN is; no ITEM begins with several letters, so LETTER is a single one. */
+        /**
+         * What a TOKEN is. No ITEM begins with several letters and none takes a NUMBER above 9, so
+         * LETTER and NUMBER are of one sign; what is longer can't stand anywhere.
+         */
         private static final int END = 0, LETTER = 1, NUMBER = 2, STOP = 3, WRONG = 4;
 
         final int[] bytes = new int[MAX_TEXT];
@@ -516,7 +519,8 @@ public final class FeastMarch {
             skip(' ', ' ');
             start = place;
             if (skip('0', '9')) {
-                tellNumber();
+                token = place - start == 1 ? NUMBER : WRONG;
+                value = bytes[start] - '0';
             } else if (skip('a', 'z')) {
                 token = place - start == 1 ? LETTER : WRONG;
                 value = bytes[start];
@@ -535,20 +539,6 @@ public final class FeastMarch {
                 place++;
             }
             return place > from;
-        }
-
-        /** Three digits are above 99 or begin with a 0: no NUMBER has more than two. */
-        private void tellNumber() {
-            int digits = place - start;
-            int firstDigit = bytes[start] - '0';
-            token = NUMBER;
-            if (digits == 1) {
-                value = firstDigit;
-            } else if (digits == 2 && firstDigit > 0) {
-                value = firstDigit * 10 + bytes[start + 1] - '0';
-            } else {
-                token = WRONG;
-            }
         }
     }
 
