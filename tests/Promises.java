@@ -952,12 +952,10 @@ public final class Promises {
             ten.shuts(i % 6, i < 6 ? 1 : 0);
         }
         ten.keep(0);
-        for (int i = 0; i < 10; i++) {
-            ten.undo();
+        for (int i = 0; i < 11; i++) {
+            ten.shuts(i % 6, i < 6 ? 1 : 0);
         }
-        due("now(5)", ten.now(5), 3);
-        ten.shuts(5, 1);
-        ten.shuts(4, 1);
+        due("count(5): all of it is lost", ten.count(5), 10);
         due("back(0)", ten.back(0), 5);
         for (int left = 9; left >= 0; left--) {
             due("undo() as kept", ten.undo(), left);
