@@ -15,6 +15,7 @@ public final class AgainstModel {
     private static long seed = 20261119;
     private static int wrong = 0;
     private static long calls = 0;
+    private static int used = 0;
 
     public static void main(String[] args) {
         for (int run = 0; run < 1500 && wrong < 10; run++) {
@@ -35,30 +36,28 @@ public final class AgainstModel {
         FeastMarch x = new FeastMarch();
         Model m = new Model();
         StringBuilder log = new StringBuilder();
-        int left = 512;
+        used = 0;
         boolean odd = run % 5 == 4;
-        while (left > 0 && wrong < 10) {
-            if (left > 180 && below(60) == 0 || left == 512) {
+        while (used < 511 && wrong < 10) {
+            if (used < 330 && below(60) == 0 || used == 0) {
                 String text = text(odd && below(2) == 0);
                 for (int i = 0; i < text.length(); i++) {
                     check(run, log, "type(" + (int) text.charAt(i) + ")", x.type(text.charAt(i)), m.type(text.charAt(i)));
                 }
                 int got = x.city();
                 check(run, log, "city()", got, m.city());
-                left -= text.length() + 1;
                 if (got < 0 && below(4) != 0) {
                     check(run, log, "clear()", x.clear(), m.clear());
-                    left--;
                 }
             } else {
                 oneCall(run, log, x, m);
-                left--;
             }
         }
     }
 
     private static void check(int run, StringBuilder log, String call, long got, long want) {
         calls++;
+        used++;
         log.append(call).append(' ');
         if (got != want) {
             wrong++;

@@ -101,6 +101,9 @@ public final class EdgesOfMarch {
         Edge.due("far(1, 0)", twice.far(1, 0), 1);
         FeastMarch around = Edge.told("c3;s0 1 5;s0 2 2;s2 1 3;");
         Edge.due("far(0, 1): both ways are as far", around.far(0, 1), 5);
+        FeastMarch door = Edge.told("c3;s0 1 2;s2 0 3;");
+        Edge.due("far(1, 2) by the door", door.far(1, 2), 5);
+        Edge.due("far(2, 1) by the door", door.far(2, 1), 5);
         FeastMarch nearer = Edge.told("c3;s0 1 5;s0 2 2;s2 1 2;");
         Edge.due("far(0, 1): two streets are less far", nearer.far(0, 1), 4);
     }
@@ -505,6 +508,12 @@ public final class EdgesOfMarch {
             Edge.due("back(" + it + ")", x.back(it), 6);
             Edge.due("now(0)", x.now(0), 2);
         }
+        FeastMarch asked = Edge.busy();
+        Edge.due("rows(1)", asked.rows(1), 8);
+        asked.back(0);
+        Edge.due("rows(1) behind back(): from now on", asked.rows(1), 6);
+        asked.back(1);
+        Edge.due("rows(1) behind back()", asked.rows(1), 2);
         FeastMarch stood = Edge.told("c1;l0 1;");
         stood.leads(0);
         stood.keep(1);
@@ -591,9 +600,7 @@ public final class EdgesOfMarch {
         Edge.says("Read anew: as told, nothing SEEN, no PLAN, nothing to be UNDONE, IMAGES are gone; THE TRACE stays");
         FeastMarch x = Edge.busy(Edge.SQUARE);
         Edge.due("city()", x.city(), 8);
-        FeastMarch y = Edge.told(Edge.SQUARE);
-        y.mark(5, 0);
-        Edge.same("a city read anew is as one of a new object", x, y);
+        Edge.same("a city read anew is as one of a new object", x, markedSquare());
         FeastMarch less = Edge.busy("c3;s2 1 9;l1 4;");
         Edge.due("city()", less.city(), 3);
         FeastMarch only = Edge.told("c3;s2 1 9;l1 4;");
@@ -605,10 +612,26 @@ public final class EdgesOfMarch {
         Edge.due("far(0, 7)", more.far(0, 7), 1);
         Edge.due("leader(3, 2)", more.leader(3, 2), 0);
         Edge.due("street(1, 0)", more.street(1, 0), Edge.BAD);
+        FeastMarch asked = Edge.busy(Edge.SQUARE);
+        Edge.due("rows(3)", asked.rows(3), 1);
+        asked.city();
+        Edge.same("a city read anew, when the old one's rows were asked, too", asked, markedSquare());
+        FeastMarch stood = Edge.told("c1;l0 1;");
+        stood.leads(0);
+        Edge.due("now(2)", stood.now(2), 1);
+        Edge.write(stood, "c1;l0 1;");
+        stood.city();
+        Edge.same("a city read anew, when there were fines, too", stood, Edge.told("c1;l0 1;"));
         FeastMarch fault = Edge.busy("c8;s0 7 1;l7 5;l8 1;");
         Edge.due("city() with a fault", fault.city(), -26);
         Edge.due("count(0): as it was", fault.count(0), 4);
         Edge.due("far(0, 3)", fault.far(0, 3), 5);
         Edge.due("back(1)", fault.back(1), 6);
+    }
+
+    private static FeastMarch markedSquare() {
+        FeastMarch x = Edge.told(Edge.SQUARE);
+        x.mark(5, 0);
+        return x;
     }
 }

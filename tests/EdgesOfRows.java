@@ -7,6 +7,7 @@ public final class EdgesOfRows {
         fromNowOn();
         nothingIsChanged();
         ordersOfAllLeft();
+        theLastOfAllRows();
         nobodyLeft();
         noCorners();
         turnedAbout();
@@ -134,6 +135,30 @@ public final class EdgesOfRows {
         gaps.leads(3);
         order(gaps, 1, 4, 0, 1, 2, 4, 5, Edge.NONE, Edge.NONE);
         most(gaps, 0, 1, 2, 4, 5, Edge.NONE, Edge.NONE);
+    }
+
+    private static void theLastOfAllRows() {
+        Edge.says("ROWS are orders of all LEADERS: of six 720, to the last of them");
+        // By 5 4 3 2 1 0 alone each gets home.
+        FeastMarch happy = line("l6 1;l5 1;l4 1;l3 1;l2 1;l1 1;");
+        Edge.due("rows(2)", happy.rows(2), 6);
+        Edge.due("rows(1): 6 by the last alone", happy.rows(1) >> 6, 1);
+        most(happy, 6, 5, 4, 3, 2, 1, 0);
+        for (int k = 0; k <= 5; k++) {
+            happy.saw(k, k + 1);
+        }
+        fits(happy, 1, 5, 4, 3, 2, 1, 0);
+        // 5 to 4, 4 to 1, 3 to 2, 2 to 4, 1 to the door, where 0 stands: no other row ends there with one fine.
+        FeastMarch best = Edge.told("c5;s4 0 7;s2 1 2;s1 4 2;l3 3;l0 3;l0 2;l2 2;l1 3;l4 2;");
+        order(best, 1, 1, 22, 5, 4, 3, 2, 1, 0);
+        // Here the first one is the only such.
+        FeastMarch first = line("l1 1;l2 1;l3 1;l4 1;l5 1;l6 1;");
+        Edge.due("rows(2)", first.rows(2), 6);
+        most(first, 6, 0, 1, 2, 3, 4, 5);
+        for (int k = 0; k <= 5; k++) {
+            first.saw(k, k + 1);
+        }
+        fits(first, 1, 0, 1, 2, 3, 4, 5);
     }
 
     private static void nobodyLeft() {

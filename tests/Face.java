@@ -96,7 +96,7 @@ public final class Face {
         String code = source.replaceAll("(?s)/\\*.*?\\*/|//[^\n]*", "");
         String[] banned = {"throw", "throws", "try", "catch", "synchronized", "assert", "import", "package",
             "native", "volatile", "transient", "var", "record", "static \\{", "->", "::", "\"", "%s", "Thread", "System\\.(?!arraycopy)",
-            "Math\\.(?!max|min|abs|floorDiv|floorMod)", "\\w+Exact", "equals", "hashCode", "toString", "Random"};
+            "Math\\.(?!max|min|abs|floorDiv|floorMod)", "Integer\\.(?!bitCount)", "\\w+Exact", "equals", "hashCode", "toString", "Random"};
         for (String word : banned) {
             boolean isWord = word.matches("\\w+");
             String pattern = isWord ? "\\b" + word + "\\b" : word;

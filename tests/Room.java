@@ -96,10 +96,10 @@ public final class Room {
         }
     }
 
-    /** All that an object can be asked without changing it, as one number. */
+    /** Most of what an object can be asked without changing it, as one number; of its 512 calls some 150. */
     private static long state(FeastMarch x) {
-        long sum = x.trace();
-        for (int i = -3; i <= 12; i++) {
+        long sum = (x.trace() * 31 + x.order(-3)) * 31 + x.order(-2);
+        for (int i = -1; i <= 6; i++) {
             sum = sum * 31 + x.now(i);
             sum = sum * 31 + x.count(i);
             sum = sum * 31 + x.order(i);

@@ -9,11 +9,15 @@ public final class FeastMarch {
     private static final int MAX_CORNERS = 8;
     private static final int MAX_STREETS = 12;
     private static final int MAX_LEADERS = 6;
+    private static final int MAX_FEET = 5;
     private static final int MAX_TEXT = 150;
     private static final int MAX_UNDONE = 10;
     private static final int MAX_SEEN = 6;
     private static final int MAX_PLAN = 6;
+    private static final int MAX_HOURS_LONG = 9;
     private static final int MAX_ROWS = 720;
+    /** Each street is taken but once each way. */
+    private static final int MAX_HOURS = 2 * MAX_STREETS * MAX_HOURS_LONG;
     private static final int IMAGES = 2;
 
     private static final int DOOR = 0;
@@ -485,7 +489,7 @@ public final class FeastMarch {
                 return false;
             }
             int b = value;
-            if (!readNumber(1, 9)) {
+            if (!readNumber(1, MAX_HOURS_LONG)) {
                 return false;
             }
             into.addStreet(a, b, value);
@@ -497,7 +501,7 @@ public final class FeastMarch {
                 return false;
             }
             int home = value;
-            if (!readNumber(1, 5)) {
+            if (!readNumber(1, MAX_FEET)) {
                 return false;
             }
             into.addLeader(home, value);
@@ -879,7 +883,7 @@ public final class FeastMarch {
             walked = now.walked();
             ends = 0;
             happy = 0;
-            leastBread = Integer.MAX_VALUE;
+            leastBread = MAX_HOURS;
             mostBread = 0;
             hides = 0;
         }
